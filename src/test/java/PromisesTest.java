@@ -54,6 +54,7 @@ public final class PromisesTest {
         promise19Apply();
         promise20Cover();
         promise20CoverTies();
+        promise20CoverOfTenRules();
         promise21Covered();
         promise22Sentence();
         promise22LongSentence();
@@ -388,32 +389,32 @@ public final class PromisesTest {
         String text = clearing(x, 1);
         due("10 how many", x.clear(), many);
         due("10 triples stay", x.isOf(1, 11), 1);
-        return text;
+        return many + ": " + text;
     }
 
     private static void promise10SuggestKinds0To3() {
         due("10 kind 0", suggested(0, 2, 10, new int[][] {{1, 2, 0}, {1, 2, 1}, {1, 2, 2},
             {1, 2, 3}, {1, 2, 4}, {1, 2, 5}, {1, 2, 7}, {1, 2, 8}, {1, 2, 10}}),
-            "take 1 0 11. put 1 2 6. put 1 2 9. put 1 2 11.");
+            "4: take 1 0 11. put 1 2 6. put 1 2 9. put 1 2 11.");
         due("10 kind 1", suggested(1, 2, 2, new int[][] {{1, 2, 0}, {1, 2, 5}, {1, 2, 11}}),
-            "take 1 0 11. take 1 2 0. take 1 2 5. take 1 2 11.");
+            "4: take 1 0 11. take 1 2 0. take 1 2 5. take 1 2 11.");
         due("10 kind 1, of types", suggested(1, 0, 1, new int[][] {{1, 0, 3}}),
-            "take 1 0 11. take 1 0 3.");
+            "2: take 1 0 11. take 1 0 3.");
         due("10 kind 2", suggested(2, 2, 7, new int[][] {{1, 2, 0}, {1, 2, 5}, {0, 0, 8}, {8, 1, 7}}),
-            "take 1 0 11. take 1 2 5. put 5 0 7.");
+            "3: take 1 0 11. take 1 2 5. put 5 0 7.");
         due("10 kind 3", suggested(3, 2, 7, new int[][] {{1, 2, 6}, {1, 2, 7}, {1, 2, 8}}),
-            "take 1 0 11. take 1 2 7.");
+            "2: take 1 0 11. take 1 2 7.");
     }
 
     private static void promise10SuggestKinds4And5() {
         due("10 kind 4", suggested(4, 2, 3, new int[][] {{1, 2, 6}, {1, 2, 7}, {1, 3, 7}}),
-            "take 1 0 11. take 1 2 6. put 1 3 6.");
+            "3: take 1 0 11. take 1 2 6. put 1 3 6.");
         due("10 kind 4, the other way round", suggested(4, 2, 3, new int[][] {{1, 3, 6}}),
-            "take 1 0 11. put 1 2 6. take 1 3 6.");
+            "3: take 1 0 11. put 1 2 6. take 1 3 6.");
         due("10 kind 5", suggested(5, 3, 2, new int[][] {{1, 2, 6}, {1, 3, 6}, {1, 2, 5}, {1, 3, 4}}),
-            "take 1 0 11. take 1 3 6. take 1 2 6.");
+            "3: take 1 0 11. take 1 3 6. take 1 2 6.");
         due("10 kind 5, with itself", suggested(5, 2, 2, new int[][] {{1, 2, 6}}),
-            "take 1 0 11. take 1 2 6.");
+            "2: take 1 0 11. take 1 2 6.");
     }
 
     private static void promise10SuggestRoom() {
@@ -667,6 +668,8 @@ public final class PromisesTest {
         due("17 all twelve", x.find(0, 0, 12), 1);
         due("17 heaviest", x.weight(0), 108);
         due("17 tried", x.tried(), 4095);
+        due("20 heaviest cover", x.cover(12), 108);
+        due("20 heaviest cover", covered(x), "0 1 2 3 4 5 6 7 8 9 10 11");
         due("17 none such", x.weight(1), NO);
         for (int n : NO_INDEXES) {
             due("17 none such", x.weight(n), NO);
@@ -785,6 +788,19 @@ public final class PromisesTest {
         x.rule(3, 10, 2, 2);
         due("20 what breaks nothing", x.cover(12), 4);
         due("20 what breaks nothing", covered(x), "0 2");
+    }
+
+    private static void promise20CoverOfTenRules() {
+        ReportCauses x = asking(1);
+        for (int rule = 1; rule < 9; rule++) {
+            x.rule(0, 11, 2, 1);
+        }
+        due("20 tenth rule", x.rule(0, 11, 3, 1), 9);
+        x.change(true, 0, 2, 0, 1);
+        due("20 the tenth rule counts", x.cover(12), NO);
+        x.change(true, 0, 3, 0, 8);
+        due("20 all ten", x.cover(12), 9);
+        due("20 all ten", covered(x), "0 1");
     }
 
     private static void promise21Covered() {
