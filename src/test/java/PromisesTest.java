@@ -1,32 +1,5 @@
 /** The promises of the document one by one: ordinary calls, the edges it names, wrong inputs. */
-public final class PromisesTest {
-    private static final int BAD = ReportCauses.BAD;
-    private static final int NO = ReportCauses.NO;
-    private static final int FULL = ReportCauses.FULL;
-    private static final int[] NO_NODES = {-1, 12, Integer.MIN_VALUE, Integer.MAX_VALUE};
-    private static final int[] NO_PREDICATES = {-1, 6, Integer.MIN_VALUE, Integer.MAX_VALUE};
-    private static final int[] NO_INDEXES = {-1, -2, Integer.MIN_VALUE, Integer.MAX_VALUE};
-
-    private static int wrong = 0;
-
-    private static void due(String what, long got, long want) {
-        if (got != want) {
-            wrong++;
-            System.out.println(what + " answered " + got + ", due is " + want);
-        }
-    }
-
-    private static void due(String what, boolean got, boolean want) {
-        due(what, got ? 1 : 0, want ? 1 : 0);
-    }
-
-    private static void due(String what, String got, String want) {
-        if (!got.equals(want)) {
-            wrong++;
-            System.out.println(what + " told \"" + got + "\", due is \"" + want + "\"");
-        }
-    }
-
+public final class PromisesTest extends Expect {
     public static void main(String[] args) {
         promise1NewObject();
         promise2Triple();
@@ -59,83 +32,7 @@ public final class PromisesTest {
         promise22Sentence();
         promise22LongSentence();
         promise23Letter();
-        System.out.println(wrong == 0 ? "all answers are as due" : wrong + " answers are not as due");
-        if (wrong != 0) {
-            System.exit(1);
-        }
-    }
-
-    /** Node 0 is of class 11, which asks for many objects of predicate 2 at least. */
-    private static ReportCauses asking(int many) {
-        ReportCauses x = new ReportCauses();
-        x.triple(0, 0, 11);
-        x.rule(0, 11, 2, many);
-        return x;
-    }
-
-    private static String results(ReportCauses x) {
-        StringBuilder all = new StringBuilder();
-        for (int i = 0; x.result(i) != NO; i++) {
-            all.append(i == 0 ? "" : " ").append(x.result(i));
-        }
-        return all.toString();
-    }
-
-    private static String reason(ReportCauses x, int node, int class0) {
-        StringBuilder all = new StringBuilder();
-        for (int i = 0; x.reason(node, class0, i) != NO; i++) {
-            all.append(i == 0 ? "" : " ").append(x.reason(node, class0, i));
-        }
-        return all.toString();
-    }
-
-    private static String set(ReportCauses x, int i) {
-        StringBuilder all = new StringBuilder();
-        for (int k = 0; x.set(i, k) != NO; k++) {
-            all.append(k == 0 ? "" : " ").append(x.set(i, k));
-        }
-        return all.toString();
-    }
-
-    private static String sets(ReportCauses x) {
-        StringBuilder all = new StringBuilder();
-        for (int i = 0; x.set(i, 0) != NO; i++) {
-            all.append(i == 0 ? "" : ", ").append(set(x, i));
-        }
-        return all.toString();
-    }
-
-    private static String covered(ReportCauses x) {
-        StringBuilder all = new StringBuilder();
-        for (int k = 0; x.covered(k) != NO; k++) {
-            all.append(k == 0 ? "" : " ").append(x.covered(k));
-        }
-        return all.toString();
-    }
-
-    private static String told(ReportCauses x) {
-        StringBuilder all = new StringBuilder();
-        for (int k = 0; x.letter(k) != NO; k++) {
-            all.append((char) x.letter(k));
-        }
-        return all.toString();
-    }
-
-    private static String sentence(ReportCauses x, int i) {
-        int many = x.sentence(i);
-        String text = told(x);
-        due("sentence(" + i + ")", many, text.length());
-        return text;
-    }
-
-    /** The sets of one change that clear a result of rule 0, in their order. */
-    private static String clearing(ReportCauses x, int node) {
-        StringBuilder all = new StringBuilder();
-        int sets = x.find(0, node, 1);
-        for (int i = 0; i < sets; i++) {
-            all.append(i == 0 ? "" : " ").append(sentence(x, i));
-        }
-        return all.toString();
+        end();
     }
 
     private static void promise1NewObject() {
@@ -375,21 +272,6 @@ public final class PromisesTest {
         due("9 no before full", x.change(false, 0, 2, 1, 1), NO);
         due("9 bad before full", x.change(true, 0, 2, 12, 1), BAD);
         due("9 changes do nothing", x.drop(0, 2, 1), 0);
-    }
-
-    /** Node 1 is of class 11, for which rule 0 is; what the rule suggests for it is told. */
-    private static String suggested(int kind, int p, int a, int[][] triples) {
-        ReportCauses x = new ReportCauses();
-        x.triple(1, 0, 11);
-        for (int[] t : triples) {
-            x.triple(t[0], t[1], t[2]);
-        }
-        x.rule(kind, 11, p, a);
-        int many = x.suggest(0, 1);
-        String text = clearing(x, 1);
-        due("10 how many", x.clear(), many);
-        due("10 triples stay", x.isOf(1, 11), 1);
-        return many + ": " + text;
     }
 
     private static void promise10SuggestKinds0To3() {
@@ -853,10 +735,10 @@ public final class PromisesTest {
             all.append(o == 0 ? "" : ", ").append("put 0 2 ").append(o);
         }
         y.find(0, 0, 12);
-        due("22 all twelve", sentence(y, 0), all.append('.').toString());
+        due("22 all twelve", telling(y, 0), all.append('.').toString());
     }
 
-    /** The longest sentence there can be: twelve takings from a node of two digits. */
+    /** Twelve takings from a node of two digits. */
     private static void promise22LongSentence() {
         ReportCauses x = new ReportCauses();
         x.triple(11, 0, 10);
