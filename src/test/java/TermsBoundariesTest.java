@@ -623,6 +623,14 @@ public final class TermsBoundariesTest extends Expect {
         due("both, and none broken", x.cover(4), 18);
         due("both, and none broken", covered(x), "2 3");
         due("a size too small for both", x.cover(1), NO);
+        for (int r = 2; r < 9; r++) {
+            x.rule(0, 11, 2, 1);
+        }
+        due("nine rules", x.cover(4), 18);
+        due("the tenth", x.rule(1, 11, 4, 0), 9);
+        due("ten rules", x.cover(4), 18);
+        x.triple(0, 4, 0);
+        due("the tenth does not hold", x.cover(4), NO);
     }
 
     private static void tiesOfCover() {
