@@ -5,7 +5,7 @@ import java.util.Arrays;
  * would break, the lightest set that puts all right, and the reasons of classes.
  *
  * <p>A set of changes is an int with bit c for change c, and a set of nodes an int with bit n for
- * node n: so no call makes an object, and a whole object lives in rows made once.
+ * node n: so a search makes nothing, and a whole object lives in rows made once.
  */
 public final class ReportCauses {
     public static final int BAD = -1;
@@ -270,6 +270,7 @@ public final class ReportCauses {
         return (members >> n & 1) != 0;
     }
 
+    /** For sets of changes as well, of which there are no more than nodes. */
     private static int nthMember(int members, int n) {
         int left = n;
         for (int m = 0; m < NODES; m++) {
